@@ -36,8 +36,8 @@ public final class OvenLies {
         }
         kept = new boolean[IMAGES];
         reader = new Reader();
-        fewSearch = new FewSearch();
-        roundSearch = new RoundSearch();
+        fewSearch = new FewSearch(now);
+        roundSearch = new RoundSearch(now);
         answers = new int[MOST_LIES];
         above = 0;
         below = 1;
@@ -201,7 +201,7 @@ public final class OvenLies {
         if (!now.hasOven(o) || k < NONE) {
             return badTen();
         }
-        int sayings = fewSearch.fewest(now, o);
+        int sayings = fewSearch.fewest(o);
         if (sayings < 0) {
             return NO_ROW;
         }
@@ -215,7 +215,7 @@ public final class OvenLies {
         if (o != HOT_ALONE && o != HEAT_ALONE && !now.hasOven(o)) {
             return badTen();
         }
-        roundSearch.search(now);
+        roundSearch.search();
         if (o == HOT_ALONE) {
             return roundSearch.bestHot;
         }
@@ -538,12 +538,6 @@ public final class OvenLies {
         }
     }
 
-    private static void zeroRow(int[] row) {
-        for (int i = 0; i < row.length; i++) {
-            row[i] = 0;
-        }
-    }
-
     private static long commonDivisor(long a, long b) {
         long x = a;
         long y = b;
@@ -827,8 +821,6 @@ public final class OvenLies {
             lies = 0;
             ovens = 0;
             day = 0;
-            zeroRow(known);
-            zeroRow(heat);
             seenOnes.wipe();
             notes.wipe();
             marks.wipe();
@@ -878,7 +870,7 @@ public final class OvenLies {
         }
 
         private int takenNow(int o, int l) {
-            int x = lightsKnownTo(l, cell(known, l));
+            int x = lights(cell(lieKind, l), cell(untruth, l), cell(known, l), day);
             return taken(cell(ovenKind, o), x, cell(heat, o));
         }
 
@@ -1026,22 +1018,25 @@ public final class OvenLies {
 
     /* Looks for the first of the shortest rows of SAYINGS by which one OVEN is HOT. */
     private static final class FewSearch {
+        private final Town town;
         private final int[] row = new int[MOST_SAYINGS];
         private final int[] known = new int[MOST_LIES];
-        private Town town;
         private int ovenKind;
         private int mostTaken;
 
-        private int fewest(Town asked, int o) {
-            town = asked;
-            ovenKind = cell(asked.ovenKind, o);
-            copyRow(asked.known, known);
+        private FewSearch(Town town) {
+            this.town = town;
+        }
+
+        private int fewest(int o) {
+            ovenKind = cell(town.ovenKind, o);
+            copyRow(town.known, known);
             mostTaken = 0;
-            for (int l = 0; l < asked.lies; l++) {
-                mostTaken = Math.max(mostTaken, asked.takenNow(o, l));
+            for (int l = 0; l < town.lies; l++) {
+                mostTaken = Math.max(mostTaken, town.takenNow(o, l));
             }
             for (int length = 0; length <= MOST_SAYINGS; length++) {
-                if (reaches(this, 0, length, cell(asked.heat, o))) {
+                if (reaches(this, 0, length, cell(town.heat, o))) {
                     return length;
                 }
             }
@@ -1073,20 +1068,23 @@ public final class OvenLies {
 
     /* Looks for the first of the best ways to say one LIE or none into each OVEN. */
     private static final class RoundSearch {
+        private final Town town;
         private final int[] way = new int[MOST_OVENS];
         private final int[] best = new int[MOST_OVENS];
         private final int[] known = new int[MOST_LIES];
         private final int[] hotAhead = new int[MOST_OVENS + 1];
         private final int[] heatAhead = new int[MOST_OVENS + 1];
-        private Town town;
         private int bestHot;
         private int bestHeat;
 
-        private void search(Town asked) {
-            town = asked;
+        private RoundSearch(Town town) {
+            this.town = town;
+        }
+
+        private void search() {
             bestHot = NONE;
             bestHeat = NONE;
-            copyRow(asked.known, known);
+            copyRow(town.known, known);
             hopeAhead();
             place(this, 0, 0, 0);
         }

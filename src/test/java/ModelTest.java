@@ -294,11 +294,27 @@ public final class ModelTest {
         }
     }
 
+    /* Strong LIES, few of them or few OVENS, so that YEARS leave some HOT. */
+    private static void strongYears(Due due) {
+        for (int run = 0; run < 400; run++) {
+            OvenLies s = new OvenLies();
+            Model m = new Model();
+            for (int i = below(8); i > 0; i--) both(due, "years", s, m, "lie", new int[] {below(6), 7 + below(3)});
+            for (int i = below(6); i > 0; i--) both(due, "years", s, m, "oven", new int[] {below(6)});
+            for (int i = below(12); i > 0; i--) both(due, "years", s, m, "says", new int[] {below(7), below(5)});
+            both(due, "years", s, m, "days", new int[] {1 + below(9)});
+            int seed = below(1000000);
+            for (int n = 0; n <= 60; n++) both(due, "years", s, m, "years", new int[] {seed, n});
+            for (int n = 0; n <= 40; n++) both(due, "years", s, m, "years", new int[] {below(1000000), below(9)});
+        }
+    }
+
     public static void main(String[] args) {
         int runs = args.length > 0 ? Integer.parseInt(args[0]) : 1200;
         x = args.length > 1 ? Long.parseLong(args[1]) : 2026;
         Due due = new Due();
         lastDay(due);
+        strongYears(due);
         for (int run = 0; run < runs && due.allRight(); run++) runOfCalls(due, run);
         for (int run = 0; run < 20 * runs && due.allRight(); run++) runOfText(due, run);
         due.end();

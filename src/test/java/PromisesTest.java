@@ -159,13 +159,15 @@ public final class PromisesTest {
             "town;lie 0 100;", "town;lie 000 1;", "town 7;", "town;oven 6;", "town;oven 0 0;", "town;say 0 0;",
             "town;lie 0 1;say 0 0;", "town;lie 0 1;oven 0;say 0 1;", "town;lie 0 1;oven 0;say 1 0;", "town;forget 0;",
             "town;lie 0 1;forget 1;", "town;days 0;", "town;days 100;", "town;days;", "town;oven 0;;", "town;,",
-            "town;days 1,", "town;lie 01;", "town; lie0 1 ;", "town;days-1;", "town;lie 0 1;forget 0;"};
+            "town;days 1,", "town;lie 01;", "town; lie0 1 ;", "town;days-1;", "town;lie 0 1;forget 0;",
+            "town;\0", "town\0;", "\0", "town;\t", "town;oven 0\n;", "town;lie 0 1;zay", "town;day 1;", "town;says 0 0;"};
         int[] due07 = {0, 3, 4, 5, 0, 0, 0, 0, 0, 0, 5,
             5, 8, 9, 11, 11, 12, 10,
             11, 9, 5, 10, 12, 9,
             19, 26, 24, 12,
             20, 10, 10, 9, 12, 5,
-            11, 11, -1, 9, -1};
+            11, 11, -1, 9, -1,
+            5, 4, 0, 5, 11, 13, 5, 5};
         for (int i = 0; i < texts.length; i++) {
             long fault = due07[i] < 0 ? -1 : due07[i];
             long got = read(s, texts[i]);
@@ -419,6 +421,10 @@ public final class PromisesTest {
         due.is("17", s.few(0, -2), -10);
         due.is("17", s.few(0, Integer.MAX_VALUE), -5);
         refused("17", s, 3, 0, 0);
+        OvenLies known = with(new int[] {0, 9, 0, 8}, new int[] {0, 0});
+        for (int i = 0; i < 5; i++) known.says(0, 1);
+        due.is("17 KNOWN to 5: 8, then 16", known.few(0, -1), 2);
+        due.is("17 8 and 16", known.few(0, 0) * 10 + known.few(0, 1), 1);
         OvenLies poor = with(new int[] {0, 1}, new int[] {0});
         due.is("17 none", poor.few(0, -1), -6);
         due.is("17 none", poor.few(0, 3), -6);
@@ -494,7 +500,7 @@ public final class PromisesTest {
         due.is("19", s.keep(2, 1), -2);
         due.is("19", s.keep(-1, 1), -2);
         refused("19", s, 4, 0, 0);
-        // On DAY 5 a CONFESSED lie lights 9 and on DAY 6 more by 6.
+        // A CONFESSED one lights 6 more on DAY 6.
         OvenLies t = with(new int[] {4, 9, 1, 9}, new int[] {0});
         t.days(5);
         t.says(1, 0);
@@ -506,6 +512,13 @@ public final class PromisesTest {
         due.is("19 then 20 and 8, less 7: 21", u.keep(0, 2), 0);
         due.is("19 then 21, 20, 18", u.keep(0, 4), 0);
         due.is("19 CONFESSED instead", u.keep(0, 5), 1);
+        // 23 and 4, less 7: 20; then 2 and 6 more on DAY 6: 21; then none: 14.
+        OvenLies v = with(new int[] {4, 2, 0, 9, 2, 5}, new int[] {0});
+        v.days(5);
+        v.says(1, 0);
+        v.says(2, 0);
+        due.is("19 DAYS go by in it", v.keep(0, 2), 0);
+        due.is("19 PLAIN KNOWN to 1 instead", v.keep(0, 3), 1);
     }
 
     private static void p20() {
@@ -797,6 +810,10 @@ public final class PromisesTest {
         due.is("32 OVEN 2 is not there", v.years(1, 1), 0);
         OvenLies w = with(new int[] {5, 9, 5, 9, 5, 9, 1, 9}, new int[] {0, 0, 0});
         due.is("32 a DAY goes by: 22 less 7", w.years(1, 1), 0);
+        // By SEED 3 (3310558080, less 2147483648, is 1163074432) LIE 17747 is 2 by 7, OVEN 1109 is 4 by 5.
+        due.is("32 LIE 2, OVEN 4", with(new int[] {0, 1, 0, 1, 5, 9}, new int[] {0, 0, 0, 0, 0}).years(3, 1), 1);
+        due.is("32 OVEN 4 is not there", with(new int[] {0, 1, 0, 1, 5, 9}, new int[] {0, 0, 0, 0}).years(3, 1), 0);
+        due.is("32 LIE 2 is not there", with(new int[] {5, 9, 5, 9}, new int[] {0, 0, 0, 0, 0}).years(3, 1), 0);
     }
 
     private static void p33() {
@@ -925,11 +942,11 @@ public final class PromisesTest {
         s.note(1, 2, 3, 4, 5);
         s.mark(1, 20, 30, 40);
         s.mark(0, 21, 31, 41);
-        s.trues(1, 1, 3);
+        s.trues(1, 3, 3);
         s.type(7);
         s.status(9);
         due.is("38", s.digest(), mixed(2, 2, 1, 2, 36, 2, 1, 2, 3, 1, 5, 9, 1, 0, 3, 1, 0, 30, 4, 6,
-            1, 2, 3, 4, 5, 0, 12, 9, 14, 15, 1, 2, 3, 4, 5, 1, 20, 30, 40, 0, 21, 31, 41, 0, 1));
+            1, 2, 3, 4, 5, 0, 12, 9, 14, 15, 1, 2, 3, 4, 5, 1, 20, 30, 40, 0, 21, 31, 41, 49, 100));
         due.is("38 nothing refused by it", s.status(0), 1);
     }
 
