@@ -184,6 +184,9 @@ public final class ModelTest {
 
     private static void digests(Due due, String run, OvenLies s, Model m) {
         due.is(run + " digest", s.digest(), m.digest());
+    }
+
+    private static void statuses(Due due, String run, OvenLies s, Model m) {
         for (int i = 0; i < 3; i++) due.is(run + " status", s.status(i), m.status(i));
     }
 
@@ -194,12 +197,14 @@ public final class ModelTest {
             for (int i = below(8); i > 0; i--) both(due, "run " + run, s, m, "lie", new int[] {below(6), 1 + below(9)});
             for (int i = below(6); i > 0; i--) both(due, "run " + run, s, m, "oven", new int[] {below(6)});
         }
-        for (int call = 0; call < 200 && due.allRight(); call++) {
+        // With the LIES and OVENS ahead and STATUS behind no object hears more than 512 calls.
+        for (int call = 0; call < 240 && due.allRight(); call++) {
             String name = NAMES[pick()];
             String place = "run " + run + " call " + call;
             both(due, place, s, m, name, numbers(name, m));
             digests(due, place, s, m);
         }
+        statuses(due, "run " + run, s, m);
     }
 
     private static String blanks(boolean needed) {
@@ -267,6 +272,7 @@ public final class ModelTest {
         }
         due.is("text " + run + " <" + text + "> read", s.read(), m.read());
         digests(due, "text " + run + " <" + text + ">", s, m);
+        statuses(due, "text " + run + " <" + text + ">", s, m);
         for (int i = 0; i < 12; i++) {
             String name = NAMES[pick()];
             both(due, "text " + run + " <" + text + ">", s, m, name, numbers(name, m));
@@ -280,8 +286,9 @@ public final class ModelTest {
         Model m = new Model();
         both(due, "last day", s, m, "lie", new int[] {5, 9});
         both(due, "last day", s, m, "oven", new int[] {0});
-        for (int i = 0; i < 170; i++) {
-            both(due, "last day", s, m, "days", new int[] {i < 166 ? 60 : 13});
+        for (int i = 0; i < 165; i++) both(due, "last day", s, m, "days", new int[] {60});
+        for (int i = 0; i < 40; i++) {
+            both(due, "last day", s, m, "days", new int[] {1 + i % 7});
             both(due, "last day", s, m, "says", new int[] {0, 0});
             both(due, "last day", s, m, "forgets", new int[] {0});
             digests(due, "last day", s, m);
@@ -292,6 +299,7 @@ public final class ModelTest {
             both(due, "last day", s, m, "undo", new int[] {});
             digests(due, "last day", s, m);
         }
+        statuses(due, "last day", s, m);
     }
 
     /* Strong LIES, few of them or few OVENS, so that YEARS leave some HOT. */

@@ -153,7 +153,6 @@ public final class PromisesTest {
     }
 
     private static void p07faults() {
-        OvenLies s = with(new int[] {0, 9}, new int[] {0});
         String[] texts = {"", "   ", "town", "town ", "lie 0 1;", ";", "tow;", "towns;", "Town;", "1;", "town;town;",
             "town;x", "town;lie", "town;lie 6 1;", "town;lie 0 0;", "town;lie 0 10;", "town;lie 0 1", "town;lie 0;",
             "town;lie 0 100;", "town;lie 000 1;", "town 7;", "town;oven 6;", "town;oven 0 0;", "town;say 0 0;",
@@ -169,18 +168,18 @@ public final class PromisesTest {
             11, 11, -1, 9, -1,
             5, 4, 0, 5, 11, 13, 5, 5};
         for (int i = 0; i < texts.length; i++) {
-            long fault = due07[i] < 0 ? -1 : due07[i];
+            OvenLies s = with(new int[] {0, 9}, new int[] {0});
             long got = read(s, texts[i]);
-            if (fault < 0) {
+            if (due07[i] < 0) {
                 due.is("7 <" + texts[i] + "> is no fault", got >= 1 ? 1 : 0, 1);
-                s = with(new int[] {0, 9}, new int[] {0});
             } else {
-                due.is("7 <" + texts[i] + ">", got, -10 - fault);
+                due.is("7 <" + texts[i] + ">", got, -10 - due07[i]);
                 due.is("7 all stays", s.of(0, 1), 9);
                 due.is("7 all stays", s.count(0) * 10 + s.count(1), 11);
             }
+            refused("7", s, 0, 0, 0);
         }
-        refused("7", s, 0, 0, 0);
+        OvenLies s = new OvenLies();
         due.is("7 an 8th lie", read(s, "town;lie0 1;lie0 1;lie0 1;lie0 1;lie0 1;lie0 1;lie0 1;lie 9 9"), -64);
         due.is("7 a 6th oven", read(s, "town;oven0;oven0;oven0;oven0;oven0; oven 9"), -46);
     }
