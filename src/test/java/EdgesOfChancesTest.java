@@ -183,6 +183,15 @@ public final class EdgesOfChancesTest {
         edges.is("999999, one LIE too few", oneAlone(1, 5, 9, 0).years(999999, 1), 0);
         edges.is("1", oneAlone(3, 5, 9, 2).years(1, 1), 1);
 
+        edges.sentence("32", "LIE X by 65536 (cut), by 7 left over; OVEN X by 1048576 (cut), by 5 left over");
+        // X by 1048576 leaves nearly all or nearly nothing over; so does X by 65536 for SEEDS 5 and 3.
+        edges.is("467664742: 2 into 0", oneAlone(2, 5, 9, 0).years(3009, 1), 1);
+        edges.is("1039138612: 0 into 0", strong(1, 1).years(4615, 1), 1);
+        edges.is("1373635648: 2 into 0", oneAlone(2, 5, 9, 0).years(5059, 1), 1);
+        edges.is("1945109518: 0 into 0", strong(1, 1).years(6665, 1), 1);
+        edges.is("1222621274: 0 into 0", strong(1, 1).years(5, 1), 1);
+        edges.is("1163074432: 2 into 4", oneAlone(2, 5, 9, 4).years(3, 1), 1);
+
         edges.sentence("32", "one of both not there: nothing");
         edges.is("one OVEN too few", oneAlone(3, 5, 9, 1).years(1, 1), 0);
         edges.is("one LIE too few", oneAlone(2, 5, 9, 2).years(1, 1), 0);

@@ -88,6 +88,17 @@ public final class EdgesOfHeatTest {
         known.oven(0);
         few("by 9 it is 6 each", known, 1, 0, 0, 0, 0);
 
+        edges.sentence("17", "by what is now: each time anew");
+        OvenLies anew = Towns.with(Towns.lies(5, 9, 0, 9), 0);
+        few("on DAY 0: 44", anew, 0, 0);
+        anew.days(1);
+        few("on DAY 1: 22", anew, 0, 0);
+        anew.says(0, 0);
+        anew.days(3);
+        few("1 and 16", anew, 0, 0, 0);
+        anew.forgets(0);
+        few("1 and 22", anew, 0, 0);
+
         edges.sentence("17", "an OVEN takes by the HEAT that it has by then");
         few("OLD: 12, then 11", Towns.with(Towns.lies(0, 9), 4), 0, 0, 0);
         few("OLD: 9, 8, 7 less 1", Towns.with(Towns.lies(2, 9), 4), 0, 0, 0, 0);
@@ -180,6 +191,17 @@ public final class EdgesOfHeatTest {
         top.lie(0, 5);
         top.lie(1, 9);
         round("90 and 10, 99 already, 22", top, 3, 220, 3, -1, 4);
+
+        edges.sentence("18", "by what is now: each time anew");
+        OvenLies anew = Towns.with(Towns.lies(5, 9), 0, 0, 0, 0, 0);
+        round("44, 32, 28, 24, 20", anew, 5, 148, 0, 0, 0, 0, 0);
+        anew.days(1);
+        round("22, 16, 14, 12, 10", anew, 1, 74, 0, 0, 0, 0, 0);
+        anew.town();
+        anew.lie(2, 1);
+        anew.oven(0);
+        anew.oven(0);
+        round("1 is more than none, and none comes first", anew, 0, 1, -1, 0);
 
         edges.sentence("18", "nothing is changed");
         edges.asks("how many", Towns::some, s -> s.round(-2), 2);

@@ -96,6 +96,27 @@ public final class EdgesOfThereTest {
         edges.is("its UNTRUTH", s.of(2, 1), 4);
         edges.is("its KNOWN", s.of(2, 2), 0);
 
+        edges.sentence("35", "SEEN ones, NOTES, MARKS as they were kept, also where as many others came");
+        OvenLies rows = Towns.with(Towns.lies(0, 9, 1, 9), 0, 0);
+        rows.seen(0, 0, 0, 0, 18);
+        rows.note(0, 9, 0, 0, 22);
+        rows.mark(0, 0, 13, 13);
+        rows.image(1);
+        for (int what = 0; what <= 2; what++) rows.forget(what);
+        rows.seen(0, 0, 0, 0, 22);
+        rows.note(1, 9, 0, 0, 44);
+        rows.mark(1, 0, 13, 12);
+        rows.from(1);
+        edges.is("SEEN", rows.which(), 1);
+        edges.is("NOTES of 0", rows.is(0), 10);
+        edges.is("NOTES of 1", rows.is(1), 63);
+        edges.is("MARKS of 0", rows.kinds(0), 1);
+        edges.is("MARKS of 1", rows.kinds(1), 63);
+        rows.forget(0);
+        rows.seen(0, 0, 0, 0, 22);
+        rows.from(1);
+        edges.is("SEEN once more", rows.which(), 1);
+
         edges.sentence("35", "what may be undone they keep");
         s.from(0);
         int[] days = {3, 0, 0};

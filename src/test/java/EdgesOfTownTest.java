@@ -188,6 +188,11 @@ public final class EdgesOfTownTest {
         edges.bad("byte 128", Towns::full, t -> t.type(128));
         edges.bad("byte -1", Towns::full, t -> t.type(-1));
 
+        edges.sentence("5", "a number beyond a byte is none that wraps around");
+        for (int c : new int[] {256, 256 + 't', 65536 + 't', -256 + 't', 1 << 31}) {
+            edges.bad("byte " + c, Towns::some, t -> t.type(c));
+        }
+
         edges.sentence("5", "a byte leaves all else as it is");
         OvenLies some = Towns.some(), twin = Towns.some();
         some.type(';');
