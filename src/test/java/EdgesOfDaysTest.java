@@ -190,6 +190,21 @@ public final class EdgesOfDaysTest {
         edges.is("KNOWN", s.of(1, 2), 1);
         edges.is("nothing else is other", s.digest(), Towns.some().digest());
 
+        edges.sentence("11", "HEAT of each OVEN, KNOWN of each LIE, of as many as there can be");
+        OvenLies all = Towns.with(Towns.lies(0, 9, 0, 8, 0, 7, 0, 6, 0, 5, 0, 4, 0, 3), 0, 0, 0, 0, 0);
+        int[] said = {0, 1, 2, 2, 3, 3, 4, 4, 4, 5, 5, 5, 6};
+        for (int i = 0; i < said.length; i++) all.says(said[i], Math.min(4, i));
+        int[] heat = {18, 16, 14, 12, 70}, known = {1, 1, 2, 2, 3, 3, 1};
+        for (int times = 0; times < 3; times++) {
+            all.days(1 + times);
+            all.says(6, 4);
+            all.says(0, 0);
+            all.forgets(3);
+            for (int i = 0; i < 4; i++) edges.is("the DAY then", all.undo(), i == 3 ? 0 : 1 + times);
+            for (int o = 0; o < 5; o++) edges.is("HEAT of " + o, all.about(o, 1), heat[o]);
+            for (int l = 0; l < 7; l++) edges.is("KNOWN of " + l, all.of(l, 2), known[l]);
+        }
+
         edges.sentence("11", "8 at most");
         for (int n : new int[] {0, 1, 7, 8, 9, 10, 15, 16, 17, 24, 25, 33}) {
             OvenLies t = new OvenLies();

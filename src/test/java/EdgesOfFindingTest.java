@@ -120,6 +120,8 @@ public final class EdgesOfFindingTest {
         edges.sentence("22", "of like ones the least");
         tell("one LIE alone", Towns.with(Towns.lies(3, 9), 0), 0);
         tell("two that are always alike", Towns.with(Towns.lies(0, 9, 0, 9), 0), 0);
+        tell("all 7 always alike", Towns.with(Towns.lies(2, 5, 2, 5, 2, 5, 2, 5, 2, 5, 2, 5, 2, 5), 3), 0);
+        tell("all 7 alike but on DAY 6", Towns.with(Towns.lies(0, 5, 0, 5, 0, 5, 0, 5, 0, 5, 0, 5, 4, 5), 0), 60);
 
         edges.sentence("22", "the most of these LIES: of those that fit alone");
         OvenLies fit = Towns.with(Towns.lies(0, 9, 1, 7, 0, 1), 0);

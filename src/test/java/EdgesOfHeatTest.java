@@ -186,6 +186,8 @@ public final class EdgesOfHeatTest {
 
         edges.sentence("18", "of like ones the one with most HEAT together (99 at most)");
         round("20 and 19", Towns.with(Towns.lies(1, 8, 0, 5), 0, 5), 1, 39, 0, 0);
+        round("2, 4 and 2: into the last of 5", Towns.with(Towns.lies(0, 1, 0, 2), 0, 0, 0, 0, 0), 0, 8, -1, -1, 0, 1, 1);
+        round("2 and 6: into the last two of 5", Towns.with(Towns.lies(0, 1, 1, 1), 0, 0, 0, 0, 0), 0, 8, -1, -1, -1, 0, 1);
         OvenLies top = Towns.worn(90);
         top.oven(0);
         top.lie(0, 5);

@@ -1,4 +1,4 @@
-/* Promises 1 to 6: a new object, the town, LIES and OVENS as they come, THE TEXT's bytes. */
+/* Promises 1 to 6: a new object, the town, LIES and OVENS as they come, THE TEXT's bytes; what is left of others. */
 public final class EdgesOfTownTest {
     private static final Edges edges = new Edges();
 
@@ -68,6 +68,55 @@ public final class EdgesOfTownTest {
         edges.is("no SEEN one is left over", s.seen(0, 0, 0, 0, 0), 1);
         edges.is("no NOTE is left over", s.note(0, 1, 0, 0, 0), 1);
         edges.is("no MARK is left over", s.mark(0, 0, 0, 0), 1);
+    }
+
+    /* One PLAIN LIE of UNTRUTH 5, one PLAIN OVEN of HEAT 0; 7 strong LIES and 5 hot OVENS were there ahead of them. */
+    private static void oneEachAlone(String call, OvenLies s) {
+        edges.is(call + ": LIES and OVENS", s.count(0) * 10 + s.count(1), 11);
+        edges.is(call + ": HEAT of all", s.count(4), 0);
+        edges.is(call + ": no LIE keeps it HOT", s.keep(0, 1), -1);
+        edges.is(call + ": 10, 8 and 6", s.few(0, -1), 3);
+        for (int k = 0; k < 3; k++) edges.is(call + ": LIE 0 each time", s.few(0, k), 0);
+        edges.is(call + ": none is HOT by one SAYING into each", s.round(-2), 0);
+        edges.is(call + ": HEAT by one SAYING into each", s.round(-1), 10);
+        edges.is(call + ": LIE 0 it is", s.round(0), 0);
+        edges.is(call + ": one LIE fits", s.which(), 1);
+        edges.is(call + ": it rests by itself", s.arch(0, -1), 1);
+        edges.is(call + ": bits of LIE 1", s.trues(0, 2, 0), -2);
+        for (int seed = 0; seed < 20; seed++) edges.is(call + ": by SEED " + seed, s.years(seed, 5), 0);
+        edges.is(call + ": none is HOT behind a DAY", s.days(1), 0);
+    }
+
+    private static OvenLies strongOnes(OvenLies s) {
+        while (s.lie(5, 9) >= 0) edges.is("a strong LIE", s.of(0, 3) > 0 ? 1 : 0, 1);
+        while (s.oven(0) >= 0) edges.is("a PLAIN OVEN", s.about(0, 0), 0);
+        for (int i = 0; i < 20; i++) s.says(2 + i % 5, i % 5);
+        for (int l = 0; l < 7; l++) s.forgets(l);
+        edges.is("all are HOT", s.count(2), 5);
+        return s;
+    }
+
+    private static void noneOfThoseThatWere() {
+        edges.sentence("2", "all as at first: LIES and OVENS that were there are none any more");
+        OvenLies s = strongOnes(new OvenLies());
+        s.town();
+        s.lie(0, 5);
+        s.oven(0);
+        oneEachAlone("behind town", s);
+
+        edges.sentence("7", "a TOWN that is read takes the place of all: LIES and OVENS that were there are none of it");
+        OvenLies t = strongOnes(new OvenLies());
+        t.years(1, 60);
+        Towns.type(t, "town;lie 0 5;oven 0;");
+        edges.is("read", t.read(), 3);
+        oneEachAlone("behind read", t);
+
+        edges.sentence("35", "it goes on from an IMAGE: LIES and OVENS that came behind it are none of it");
+        OvenLies u = Towns.with(Towns.lies(0, 5), 0);
+        u.image(1);
+        strongOnes(u);
+        u.from(1);
+        oneEachAlone("behind from", u);
     }
 
     private static void butForThese() {
@@ -260,6 +309,7 @@ public final class EdgesOfTownTest {
         aNewObject();
         howManyThereWere();
         allAsAtFirst();
+        noneOfThoseThatWere();
         butForThese();
         liesAsTheyCome();
         ovensAsTheyCome();
