@@ -109,6 +109,17 @@ public final class EdgesOfChancesTest {
         // PRIEST'S takes nothing of 0; of 44 it takes 26.
         chance("PRIEST'S", Towns.with(Towns.lies(5, 9), 3), 1, 4, 3, 5);
 
+        edges.sentence("31", "(.. else as it does now)");
+        OvenLies known = Towns.with(Towns.lies(1, 8), 0, 0);
+        known.says(0, 1);
+        chance("KNOWN to 1: 14", known, 1, 5, 0, 1);
+        known.forgets(0);
+        chance("KNOWN to none: 20", known, 1, 5, 1, 2);
+        OvenLies day = Towns.with(Towns.lies(5, 9), 2);
+        chance("SMALL of COME ABOUT on DAY 0: 22", day, 1, 5, 1, 2);
+        day.days(1);
+        chance("SMALL of COME ABOUT on DAY 1: 11", day, 1, 5, 0, 1);
+
         edges.sentence("31", "by numbers");
         // OLD: 12 (of 18), then 8 less 1; but 8, then 12 would be HOT.
         chance("12, then 7", Towns.with(Towns.lies(0, 9, 0, 4), 4), 3, 0, 0, 1);

@@ -88,6 +88,10 @@ public final class EdgesOfHeatTest {
         known.oven(0);
         few("by 9 it is 6 each", known, 1, 0, 0, 0, 0);
 
+        OvenLies last = Towns.with(Towns.lies(0, 1, 0, 1, 0, 1, 0, 1, 0, 1, 0, 1, 0, 9), 0, 0);
+        for (int i = 0; i < 5; i++) last.says(6, 1);
+        few("2 of any, then 8, 6, 4 of the last one, KNOWN to 5", last, 0, 0, 6, 6, 6);
+
         edges.sentence("17", "by what is now: each time anew");
         OvenLies anew = Towns.with(Towns.lies(5, 9, 0, 9), 0);
         few("on DAY 0: 44", anew, 0, 0);
@@ -184,10 +188,23 @@ public final class EdgesOfHeatTest {
         two.lie(0, 8);
         round("21 and 36", two, 2, 57, 2, 2);
 
+        // OVENS 2 and 3 have 12, 6 and 1 each, and all these light by 0 now; SMALL ones take nothing of 1.
+        OvenLies nearly = Towns.with(Towns.lies(2, 1, 2, 1, 3, 4, 3, 4, 2, 1, 2, 1), 2, 2, 0, 0);
+        for (int o = 2; o <= 3; o++) {
+            nearly.says(o, o);
+            nearly.says(o, o);
+            nearly.says(o + 2, o);
+            edges.is("HEAT of OVEN " + o, nearly.about(o, 1), 19);
+        }
+        round("19 and 1 twice", nearly, 2, 40, -1, -1, 0, 1);
+
         edges.sentence("18", "of like ones the one with most HEAT together (99 at most)");
         round("20 and 19", Towns.with(Towns.lies(1, 8, 0, 5), 0, 5), 1, 39, 0, 0);
         round("2, 4 and 2: into the last of 5", Towns.with(Towns.lies(0, 1, 0, 2), 0, 0, 0, 0, 0), 0, 8, -1, -1, 0, 1, 1);
         round("2 and 6: into the last two of 5", Towns.with(Towns.lies(0, 1, 1, 1), 0, 0, 0, 0, 0), 0, 8, -1, -1, -1, 0, 1);
+        round("1 and 1, a SMALL one between takes nothing", Towns.with(Towns.lies(2, 1, 2, 1), 0, 2, 0), 0, 2, 0, -1, 1);
+        round("2, 6 and 12: into the last three of 5", Towns.with(Towns.lies(0, 1, 1, 1, 5, 1), 0, 0, 0, 0, 0), 0, 20, -1,
+            -1, 0, 1, 2);
         OvenLies top = Towns.worn(90);
         top.oven(0);
         top.lie(0, 5);

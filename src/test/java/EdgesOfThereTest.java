@@ -237,6 +237,15 @@ public final class EdgesOfThereTest {
             hot.says(i, i);
         }
         edges.is("all 5", hot.count(2), 5);
+        OvenLies one = Towns.with(Towns.lies(5, 9), 0, 0, 0);
+        for (int o = 0; o < 3; o++) one.says(0, o);
+        edges.is("44, 32 and 28 by one LIE alone, HOT", one.count(2), 3);
+        edges.is("44, 32 and 28 by one LIE alone, HEAT of all", one.count(4), 104);
+        one.town();
+        for (int i = 0; i < 3; i++) one.lie(5, 9);
+        one.oven(0);
+        edges.is("three LIES, one OVEN where three were, HOT", one.count(2), 0);
+        edges.is("three LIES, one OVEN where three were, HEAT of all", one.count(4), 0);
     }
 
     private static long mixed(long... values) {
